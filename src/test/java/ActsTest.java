@@ -180,6 +180,18 @@ public final class ActsTest {
         c.is("his DEALS", s.deal(2, 1), 3);
         c.is("closed", s.deal(5, 5), 2);
         c.is("count", s.count(5), 2);
+        s = Check.at(Check.PORT);
+        s.write(0, 1, 5, 0);
+        s.write(1, 0, 5, 0);
+        s.write(2, 0, 5, 0);
+        s.write(3, 0, 5, 0);
+        s.write(0, 3, 5, 0);
+        s.write(2, 3, 5, 0);
+        c.is("three of his, two closed", s.dies(0, 1), 3);
+        s.undo();
+        c.is("three of his, two closed", s.dies(0, 3), 3);
+        s.undo();
+        c.is("four of his, one closed", s.dies(0, 2), 4);
     }
 
     private static long[] deals(SkinLedger s, int what) {
@@ -291,6 +303,62 @@ public final class ActsTest {
         c.is("DEALS", s.count(4), 0);
     }
 
+    /** All that can be asked of what is so, as one text. */
+    private static String all(SkinLedger s) {
+        StringBuilder t = new StringBuilder();
+        for (int what = 0; what < 8; what++) {
+            t.append(s.count(what)).append(' ');
+        }
+        for (int b = 0; b < s.count(0); b++) {
+            for (int what = 0; what < 7; what++) {
+                t.append(s.body(b, what)).append(' ');
+            }
+            t.append(Check.skin(s, b));
+        }
+        for (int d = 0; d < s.count(4); d++) {
+            for (int what = 0; what < 10; what++) {
+                t.append(s.deal(d, what)).append(' ');
+            }
+        }
+        return t.toString();
+    }
+
+    private static void backAndBack() {
+        c.part("promise 20, back and back");
+        for (int first = 0; first < 8; first++) {
+            SkinLedger s = Check.at(Check.PORT);
+            s.write(0, 1, 5, 0);
+            s.write(1, 0, 7, 0);
+            s.write(0, 2, 4, 0);
+            s.write(0, 2, 4, 0);
+            s.write(3, 1, 4, 0);
+            Check.book(s, "year;scar 4 credit;deal d a 9 f;");
+            String[] told = new String[8];
+            for (int i = 0; i < 8; i++) {
+                told[i] = all(s);
+                act(s, (first + i) % 8);
+            }
+            for (int i = 7; i >= 0; i--) {
+                c.is("undo " + first, s.undo(), i);
+                c.is("as it was " + first + " " + i, all(s).equals(told[i]), true);
+            }
+            c.is("no more", s.undo(), -1);
+        }
+    }
+
+    private static void act(SkinLedger s, int i) {
+        switch (i) {
+            case 0: c.is("strike", s.strike(2), 0); break;
+            case 1: c.is("scar", s.scar(3, 1), 0); break;
+            case 2: c.is("cut", s.cut() > 3, true); break;
+            case 3: c.is("year", s.year() > 0, true); break;
+            case 4: c.is("write", s.write(2, 3, 9, 3) > 4, true); break;
+            case 5: c.is("judge", s.judge(1), -1); break;
+            case 6: s.year(); s.undo(); c.is("write", s.write(3, 0, 7, 3) > 4, true); break;
+            default: c.is("dies", s.dies(1, 2) > 1, true);
+        }
+    }
+
     private static void promise21() {
         c.part("promise 21");
         SkinLedger s = Check.at(Check.PORT);
@@ -321,6 +389,7 @@ public final class ActsTest {
         promise18();
         promise19();
         promise20();
+        backAndBack();
         promise21();
         c.end("ActsTest");
     }

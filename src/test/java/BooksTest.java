@@ -44,10 +44,51 @@ public final class BooksTest {
         c.is("of YEAR 1", s.deal(3, 4), 1);
         c.is("the heir", s.deal(3, 0), 0);
         c.is("the BOOK stays", s.count(7), 9);
+        c.is("the CREDIT is not scarred", s.read(3, 0), 0);
         // lived again it goes on from what is so
         c.is("c is dead", s.judge(1), 1);
         judgedIs(s, 1, 1, 3, 14 + 1 + 29, 1);
         c.is("one more", s.count(4), 5);
+    }
+
+    private static void sides() {
+        c.part("promise 34, sides");
+        SkinLedger s = Check.at(Check.PORT);
+        Check.book(s, "deal a b 5 p;deal a b 5 p;scar 0 credit;scar 1 debt;");
+        c.is("judge", s.judge(1), -1);
+        c.is("CREDIT of 0", s.read(0, 0), 0);
+        c.is("DEBT of 0", s.read(0, 1), 1);
+        c.is("CREDIT of 1", s.read(1, 0), 1);
+        c.is("DEBT of 1", s.read(1, 1), 0);
+        Check.book(s, "dies b c;deal d a 20 w;");
+        c.is("judge", s.judge(1), -1);
+        c.is("the first dies", s.body(1, 2), 0);
+        c.is("the second is the heir", s.deal(0, 1), 2);
+        c.is("the lender", s.deal(2, 0), 3);
+        c.is("the debtor", s.deal(2, 1), 0);
+        c.is("VALUE", s.deal(2, 9), 40);
+    }
+
+    private static void fortyLines() {
+        c.part("promise 34, 40 LINES");
+        SkinLedger s = Check.at("body a 99;body b 99;kind p 1;kind q 2;");
+        StringBuilder text = new StringBuilder();
+        for (int i = 0; i < 20; i++) {
+            text.append(i % 2 == 0 ? "deal a b " : "deal b a ").append(i + 10).append(i % 3 == 0 ? " q;" : " p;");
+        }
+        for (int i = 0; i < 20; i++) {
+            text.append("strike ").append(19 - i).append(";");
+        }
+        c.is("book", Check.book(s, text.toString()), 40);
+        c.is("judge", s.judge(1), -1);
+        c.is("LINES done", s.judged(1), 40);
+        for (int d = 0; d < 20; d++) {
+            c.is("lender", s.deal(d, 0), d % 2);
+            c.is("debtor", s.deal(d, 1), 1 - d % 2);
+            c.is("SUM", s.deal(d, 2), d + 10);
+            c.is("KIND", s.deal(d, 3), d % 3 == 0 ? 1 : 0);
+            c.is("struck", s.deal(d, 5), 1);
+        }
     }
 
     private static void wrongLines() {
@@ -99,33 +140,40 @@ public final class BooksTest {
             c.is("another law", s.lasts(law, 1), -1);
         }
         c.is("one BODY", Check.at("body a 9;kind p 1;").lasts(0, 5), 0);
-        for (int seed : new int[] {0, 1, 7, -1, 12345, Integer.MIN_VALUE, Integer.MAX_VALUE}) {
-            for (int law = 0; law < 3; law++) {
-                c.is("lasts(" + law + ", " + seed + ")", s.lasts(law, seed), lived(s, law, seed));
+        String port = "body a 12;body b 9 kin a;body e 12;body g 7;kind p 2;kind h 3 halved;kind q 1;";
+        String rings = "body a 9;body b 9;body e 9;kind p 2;kind j 1 joint;dot 1;";
+        String tiny = "body a 3;body b 3;kind p 1;line 0;";
+        for (int law = 0; law < 3; law++) {
+            for (int seed : new int[] {0, 1, 7, -1, 12345, Integer.MIN_VALUE, Integer.MAX_VALUE, 5, 6}) {
+                for (String text : new String[] {port, rings, tiny}) {
+                    c.is("lasts(" + law + ", " + seed + ")", begun(text, 0).lasts(law, seed), lived(text, 0, law, seed));
+                    c.is("lasts(" + law + ", " + seed + ")", begun(text, 1).lasts(law, seed), lived(text, 1, law, seed));
+                }
             }
         }
-        s.write(0, 1, 5, 0);
-        s.write(1, 0, 5, 0);
-        s.dies(2, 0);
-        for (int law = 0; law < 3; law++) {
-            c.is("lasts(" + law + ", 99)", s.lasts(law, 99), lived(s, law, 99));
-        }
+        s = begun(port, 1);
+        s.lasts(1, 5);
+        s.lasts(2, 6);
         c.is("all stays", s.count(5), 2);
         c.is("all stays", s.body(0, 3), 8);
-        s.year();
-        s.lasts(1, 5);
-        c.is("undo is of the year", s.undo(), 0);
+        c.is("undo is of dies", s.undo(), 2);
+        String crowd = "body a 20;body b 20;body d 20;body e 20;kind p 2;kind q 3;dot 1;";
+        for (int seed = 0; seed < 30; seed++) {
+            c.is("RINGS and their SUMS by " + seed, begun(crowd, 0).lasts(2, seed), lived(crowd, 0, 2, seed));
+        }
         // to the 60th, and then ten WRONG by 7
         s = Check.at("body a 99;body b 99;kind p 1;line 0;");
         c.is("60", s.lasts(0, 3), 60);
         c.is("60", s.lasts(1, 3), 60);
         // to the 200th draw: 1 is not counted
-        s = Check.at("body a 99;body b 99;body d 99;kind p 1;");
-        s.dies(0, 1);
+        String three = "body a 99;body b 99;body d 99;kind p 1;";
+        s = begun(three, 2);
         int few = s.lasts(0, 3);
-        c.is("some of 200", few, lived(s, 0, 3));
         c.is("not 60", few < 60 && few > 20, true);
-        s.dies(1, 2);
+        for (int seed = 100; seed < 130; seed++) {
+            c.is("to the 200th draw by " + seed, s.lasts(0, seed), lived(three, 2, 0, seed));
+        }
+        s.dies(1, 0);
         c.is("all WRONG by 1", s.lasts(0, 3), 0);
     }
 
@@ -136,33 +184,45 @@ public final class BooksTest {
         return (x >>> 8) % n;
     }
 
-    /** LASTS done by the calls themselves, and restored. */
-    private static int lived(SkinLedger s, int law, int seed) {
-        s.image(1);
+    private static SkinLedger begun(String port, int ahead) {
+        SkinLedger s = Check.at(port);
+        if (ahead > 0) {
+            s.write(0, 1, 5, 0);
+            s.write(1, 0, 5, 0);
+        }
+        if (ahead == 2 || ahead == 1 && s.count(0) > 2) {
+            s.dies(2, 0);
+        }
+        return s;
+    }
+
+    /** LASTS done by the calls themselves. */
+    private static int lived(String port, int ahead, int law, int seed) {
+        SkinLedger s = begun(port, ahead);
+        int bodies = s.count(0);
+        int kinds = s.count(1);
+        java.util.List<Integer> open = new java.util.ArrayList<>();
         x = seed;
         int written = 0;
         int refused = 0;
-        int first = s.count(4);
         for (int i = 0; i < 200 && refused < 10; i++) {
-            int lender = draw(s.count(0));
-            int debtor = draw(s.count(0));
-            int kind = draw(s.count(1));
+            int lender = draw(bodies);
+            int debtor = draw(bodies);
+            int kind = draw(kinds);
             int sum = draw(99) + 1;
-            if (law == 1) {
-                int d = s.count(4) - 1;
-                while (d >= first && s.deal(d, 5) != 0) {
-                    d--;
-                }
-                s.strike(d >= first ? d : -1);
+            if (law == 1 && !open.isEmpty() && s.strike(open.get(open.size() - 1)) == 0) {
+                open.remove(open.size() - 1);
             }
             int answer = s.write(lender, debtor, sum, kind);
-            written += answer >= 0 ? 1 : 0;
+            if (answer >= 0) {
+                written++;
+                open.add(answer);
+            }
             refused += answer < -11 ? 1 : 0;
             if (answer >= 0 && law == 2) {
                 s.cut();
             }
         }
-        s.restore(1);
         return written;
     }
 
@@ -186,6 +246,8 @@ public final class BooksTest {
 
     public static void main(String[] args) {
         promise34and35();
+        sides();
+        fortyLines();
         wrongLines();
         promise45();
         lastsTold();

@@ -59,6 +59,28 @@ public final class ImagesTest {
         s.write(0, 1, 5, 0);
         s.restore(0);
         c.is("kept anew", s.count(4), 3);
+        // nothing of a DEAL is of the one that stood in its place
+        s = Check.at(Check.PORT);
+        s.year();
+        s.year();
+        s.write(0, 3, 9, 1);
+        s.write(3, 0, 8, 2);
+        s.scar(0, 0);
+        s.scar(1, 1);
+        s.strike(1);
+        s.image(0);
+        Check.port(s, "body x 50;body y 50;kind z 1;");
+        s.write(1, 0, 50, 0);
+        s.write(0, 1, 60, 0);
+        s.write(0, 1, 60, 0);
+        s.restore(0);
+        int[] first = {0, 3, 9, 1, 2, 0, 0, 3, 1, 4};
+        int[] second = {3, 0, 8, 2, 2, 1, 3, 0, 0, 8};
+        for (int what = 0; what < 10; what++) {
+            c.is("deal(0, " + what + ")", s.deal(0, what), first[what]);
+            c.is("deal(1, " + what + ")", s.deal(1, what), second[what]);
+        }
+        c.is("two DEALS", s.count(4), 2);
     }
 
     private static void whatStays() {
@@ -114,8 +136,8 @@ public final class ImagesTest {
         c.part("far numbers");
         int[] far = {Integer.MIN_VALUE, Integer.MIN_VALUE + 1, -1000, -2, -1, 0, 1, 9, 31, 32, 60, 64, 99, 100, 512,
             640, 1 << 30, Integer.MAX_VALUE};
-        SkinLedger s = Check.at(Check.PORT);
         for (int a : far) {
+            SkinLedger s = Check.at(Check.PORT);
             for (int b : far) {
                 for (int d : far) {
                     SkinLedger t = Check.at(Check.PORT);

@@ -49,6 +49,12 @@ public final class LookTest {
         c.is("MARKS of a closed one", s.body(2, 5), 1);
         c.is("LEFT of a dead one", s.body(2, 3), 4);
         c.is("NET of the heir", s.body(0, 4), -3);
+        for (int i = 0; i < 99; i++) {
+            s.year();
+        }
+        s.write(3, 0, 5, 0);
+        c.is("MARKS of a late YEAR", s.body(3, 5), 2);
+        c.is("MARKS of a late YEAR", s.mark(3, -1), 2);
     }
 
     private static void promise7() {
@@ -227,6 +233,8 @@ public final class LookTest {
         c.is("no such", s.chain(5, 0), -1);
         c.is("no such", s.chain(0, -1), -1);
         c.is("no such is no such", s.chain(5, 5), -1);
+        c.is("no such, far", s.chain(0, 32), -1);
+        c.is("no such, far", s.chain(32, 0), -1);
         s.write(0, 3, 5, 0);
         c.is("the fewest", s.chain(3, 0), 1);
         s.strike(4);
@@ -407,6 +415,61 @@ public final class LookTest {
         c.is("far", s.greatest(Integer.MAX_VALUE), -1);
     }
 
+    /** Sixty DEALS and nine BODIES, the most there can be, looked at by each call. */
+    private static void theMost() {
+        c.part("60 DEALS, 9 BODIES");
+        SkinLedger s = Check.at("body a 99;body b 99;body d 99;body e 99;body g 99;body h 99;body i 99;body j 99;"
+                + "body l 99;kind p 1;kind q 1;kind r 1;kind t 1;kind u 1;kind z 2 joint;line 1;dot 1;");
+        for (int i = 0; i < 59; i++) {
+            c.is("write", s.write(8, i % 8, 1 + i, 0), i);
+        }
+        c.is("the last", s.write(7, 8, 99, 5), 59);
+        c.is("none behind", s.write(7, 8, 99, 5), -17);
+        c.noDeal(s, 60, 0);
+        c.is("read", s.read(60, 0), -1);
+        c.is("its KIND", s.deal(59, 3), 5);
+        c.is("MARKS", s.mark(8, -1), 60);
+        c.is("the last MARK", s.mark(8, 59), 119);
+        c.is("no more", s.mark(8, 60), -1);
+        c.is("aged", s.aged(8, 0), 60);
+        c.is("owes", s.owes(8, 0), 255);
+        c.is("owes", s.owes(8, 1), 128);
+        c.is("chain", s.chain(0, 7), 2);
+        c.is("fullest", s.fullest(0), 8);
+        c.is("fullest", s.fullest(8), 6);
+        c.is("trade", s.trade(0, 1), 59 * 60 / 2 + 99);
+        c.is("settled", s.settled(), 8);
+        c.is("between", s.between(8, 2, -1), 8);
+        c.is("between", s.between(8, 2, 7), 58);
+        c.is("greatest", s.greatest(0), 59);
+        c.is("greatest", s.greatest(59), 0);
+        c.is("no more", s.greatest(60), -1);
+        c.is("skin", s.skin(8), 9 * 8 + 50 * 9 + 9);
+        c.is("lost", s.lost(-1), 0);
+        c.is("lost", s.lost(60), -1);
+        c.is("owed", s.owed(8, 511, 0), 59 * 60 / 2);
+        c.is("proof", s.proof(8), 256);
+        c.is("witness", s.witness(59), 384);
+        c.is("witness", s.witness(60), -1);
+        c.is("ring", s.ring(), 0);
+        c.is("ringOf", s.ringOf(59), 0);
+        c.is("ringOf", s.ringOf(60), -1);
+        c.is("ringsFor", s.ringsFor(0, 1, 0), -1);
+        c.is("lasts", s.lasts(1, 5), 0);
+        c.is("strike", s.strike(60), 4);
+        c.is("strike", s.strike(59), 0);
+        c.is("lines", s.body(8, 6) + s.body(7, 6), 2);
+        c.is("dies", s.dies(8, 6), 59 - 7);
+        c.is("open", s.count(5), 52);
+        c.is("undo", s.undo(), 7);
+        c.is("undo", s.undo(), 6);
+        c.is("no lines", s.body(8, 6) + s.body(7, 6), 0);
+        c.is("undo", s.undo(), 5);
+        c.is("MARKS", s.mark(8, -1), 59);
+        c.is("aged", s.aged(7, 99), 7);
+        c.is("open", s.count(5), 59);
+    }
+
     public static void main(String[] args) {
         promise6();
         promise7();
@@ -422,6 +485,7 @@ public final class LookTest {
         promise29and30();
         promise31();
         promise32();
+        theMost();
         c.end("LookTest");
     }
 }
