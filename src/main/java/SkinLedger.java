@@ -554,7 +554,7 @@ public final class SkinLedger {
     }
 
     public int price(int b, int n) {
-        if (!port.hasBody(b) || n < 1 || n > 99 || packer.deals > 0 && packer.serial != port.serial) {
+        if (!port.hasBody(b) || n < 1 || n > 99 || !packer.isPackedIn(port)) {
             return NONE;
         }
         return packer.search(now, b, n) - packer.search(now, NONE, 0);
@@ -1769,6 +1769,11 @@ public final class SkinLedger {
                 kind[i] = tape.byteOr(3 * i + 2, 0);
             }
             return true;
+        }
+
+        /** Ahead of any pack() there are no DEALS for a PRICE to be told of, whichever the PORT. */
+        boolean isPackedIn(Port port) {
+            return deals > 0 && serial == port.serial;
         }
 
         void keepTold() {

@@ -1090,7 +1090,7 @@ final class Model {
     }
 
     int price(int b, int n) {
-        if (!isBody(b) || n < 1 || n > 99 || packPort != null && packPort != port) {
+        if (!isBody(b) || n < 1 || n > 99 || packPort == null || packPort != port) {
             return -1;
         }
         return countOf(packing(b, n)) - countOf(packing(-1, 0));

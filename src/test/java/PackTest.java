@@ -88,7 +88,18 @@ public final class PackTest {
     private static void promise38() {
         c.part("promise 38");
         SkinLedger s = Check.at(Check.PORT);
-        c.is("no DEALS packed yet: nothing more", s.price(0, 1), 0);
+        c.is("no DEALS packed yet", s.price(0, 1), -1);
+        c.is("no DEALS packed yet", s.price(3, 99), -1);
+        c.is("a wrong pack", pack(s, 0, 9, 0), -1);
+        c.is("is none", s.price(0, 1), -1);
+        s.image(0);
+        s.write(0, 1, 5, 0);
+        c.is("a DEAL written is none packed", s.price(0, 1), -1);
+        s.restore(0);
+        c.is("no DEALS packed in the PORT kept", s.price(0, 1), -1);
+        c.is("in no PORT at all", new SkinLedger().price(0, 1), -1);
+        c.is("none of them finds room", pack(s, 0, 0, 0), 0);
+        c.is("but they were packed", s.price(0, 1), 0);
         s = Check.at("body a 4;body b 4;body d 1;kind p 2;kind q 5;");
         pack(s, 0, 1, 0, 0, 1, 0, 0, 1, 0, 1, 0, 1);
         packedIs(s, 0, 0, -1, -1);
