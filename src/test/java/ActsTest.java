@@ -323,27 +323,34 @@ public final class ActsTest {
         return t.toString();
     }
 
+    /** An object of its own for each state that is told, as all() takes most of the calls that one has. */
     private static void backAndBack() {
         c.part("promise 20, back and back");
         for (int first = 0; first < 8; first++) {
-            SkinLedger s = Check.at(Check.PORT);
-            s.write(0, 1, 5, 0);
-            s.write(1, 0, 7, 0);
-            s.write(0, 2, 4, 0);
-            s.write(0, 2, 4, 0);
-            s.write(3, 1, 4, 0);
-            Check.book(s, "year;scar 4 credit;deal d a 9 f;");
-            String[] told = new String[8];
-            for (int i = 0; i < 8; i++) {
-                told[i] = all(s);
-                act(s, (first + i) % 8);
+            for (int back = 7; back >= 0; back--) {
+                String told = all(acted(first, back));
+                SkinLedger s = acted(first, 8);
+                for (int i = 7; i >= back; i--) {
+                    c.is("undo " + first, s.undo(), i);
+                }
+                c.is("as it was " + first + " " + back, all(s).equals(told), true);
+                c.is("and the next", s.undo(), back - 1);
             }
-            for (int i = 7; i >= 0; i--) {
-                c.is("undo " + first, s.undo(), i);
-                c.is("as it was " + first + " " + i, all(s).equals(told[i]), true);
-            }
-            c.is("no more", s.undo(), -1);
         }
+    }
+
+    private static SkinLedger acted(int first, int times) {
+        SkinLedger s = Check.at(Check.PORT);
+        s.write(0, 1, 5, 0);
+        s.write(1, 0, 7, 0);
+        s.write(0, 2, 4, 0);
+        s.write(0, 2, 4, 0);
+        s.write(3, 1, 4, 0);
+        Check.book(s, "year;scar 4 credit;deal d a 9 f;");
+        for (int i = 0; i < times; i++) {
+            act(s, (first + i) % 8);
+        }
+        return s;
     }
 
     private static void act(SkinLedger s, int i) {

@@ -116,17 +116,23 @@ public final class BookBoundsTest {
         return s;
     }
 
-    /** LASTS told by the calls themselves, to the most-th that is WRONG and the last-th draw of four. */
     private static int lived(SkinLedger s, int law, int seed, int most, int last) {
+        return lived(s, law, seed, most, last, 1);
+    }
+
+    /** LASTS told by the calls themselves, to the most-th that is WRONG and the last-th draw of four; SUMS from leastSum on. */
+    private static int lived(SkinLedger s, int law, int seed, int most, int last, int leastSum) {
         List<Integer> open = new ArrayList<>();
         x = seed & 0xffffffffL;
+        int bodies = s.count(0);
+        int kinds = s.count(1);
         int written = 0;
         int wrong = 0;
         for (int i = 0; i < last && wrong < most; i++) {
-            int lender = draw(s.count(0));
-            int debtor = draw(s.count(0));
-            int kind = draw(s.count(1));
-            int sum = draw(99) + 1;
+            int lender = draw(bodies);
+            int debtor = draw(bodies);
+            int kind = draw(kinds);
+            int sum = draw(99) + leastSum;
             if (law == 1 && !open.isEmpty() && s.strike(open.get(open.size() - 1)) == 0) {
                 open.remove(open.size() - 1);
             }
@@ -201,16 +207,33 @@ public final class BookBoundsTest {
         c.part("LASTS: or the 200th draw of four, 1 not counted");
         int before = 0;
         int behind = 0;
-        for (int seed = 0; seed < 60; seed++) {
+        for (int seed = 0; seed < 300; seed++) {
             int due = lived(lonely(), 0, seed, 10, 200);
             c.is("lasts(0, " + seed + ")", lonely().lasts(0, seed), due);
-            before += lived(lonely(), 0, seed, 10, 195) != due ? 1 : 0;
-            behind += lived(lonely(), 0, seed, 10, 205) != due ? 1 : 0;
+            before += lived(lonely(), 0, seed, 10, 199) != due ? 1 : 0;
+            behind += lived(lonely(), 0, seed, 10, 201) != due ? 1 : 0;
         }
-        c.is("some seeds tell those near it from it", before > 0 && behind > 0, true);
+        c.is("some seeds tell the 199th and the 201st from it", before > 0 && behind > 0, true);
+        c.part("LASTS: of 99 (and 1: the SUM)");
+        int more = 0;
+        for (int seed = 0; seed < 300; seed++) {
+            int due = lived(oweSome(), 2, seed, 10, 200);
+            c.is("lasts(2, " + seed + ")", oweSome().lasts(2, seed), due);
+            more += lived(oweSome(), 2, seed, 10, 200, 2) != due ? 1 : 0;
+        }
+        c.is("some seeds tell SUMS from 2 on from it", more > 0, true);
         c.is("to the 60th DEAL", Check.at(PORTS[2]).lasts(0, 1), 60);
         c.is("to the 60th DEAL", begun(PORTS[2], 4).lasts(0, 1), 56);
         c.is("to the 60th DEAL, closed ones told", Check.at(PORTS[2]).lasts(2, 1), 60);
+    }
+
+    /** DEALS whose SUMS, by a draw like them or one less, decide what comes off. */
+    private static SkinLedger oweSome() {
+        SkinLedger s = Check.at("body a 24;body b 24;kind p 2;");
+        for (int i = 0; i < 8; i++) {
+            s.write(i % 2, 1 - i % 2, 50, 0);
+        }
+        return s;
     }
 
     /** Nine BODIES, of whom two live. */

@@ -377,6 +377,14 @@ public final class LookBoundsTest {
         c.is("NETS of 0 need none", s.settled(), 4);
         s.write(8, 7, 1, 0);
         c.is("three pairs and three", s.settled(), 5);
+        s = Check.at("body a 9;body b 9;body d 9;kind p 1;");
+        s.write(0, 1, 1, 0);
+        s.write(0, 2, 1, 0);
+        c.is("NETS 2, -1, -1", s.settled(), 2);
+        s = Check.at("body a 9;body b 9;body d 9;kind p 1;");
+        s.write(1, 0, 1, 0);
+        s.write(2, 0, 1, 0);
+        c.is("NETS -2, 1, 1", s.settled(), 2);
     }
 
     private static void promise29and30() {
@@ -403,11 +411,13 @@ public final class LookBoundsTest {
         for (int i = 0; i < 49; i++) {
             due.append("+ hijklmn ").append(51 + i).append(" vwxyzabx;- abcdefg ").append(51 + i).append(" vwxyzabx;");
         }
+        due.append("- opqrstu 10 vwxyzabx;");
         for (int from = 0; from < due.length(); from += 300) {
-            s = longest();
-            c.is("its bytes", s.skin(0), 49 * 2 * 22);
+            SkinLedger t = longest();
+            c.is("MARKS", t.mark(0, -1), 99);
+            c.is("its bytes", t.skin(0), 99 * 22);
             for (int i = from; i < from + 300; i++) {
-                c.is("byteAt(" + i + ")", s.byteAt(i), i < due.length() ? due.charAt(i) : -1);
+                c.is("byteAt(" + i + ")", t.byteAt(i), i < due.length() ? due.charAt(i) : -1);
             }
         }
         c.part("promise 29: SUMS of one digit and two, ? in its place, x, o");
@@ -424,14 +434,16 @@ public final class LookBoundsTest {
         c.skinIs(s, 1, "- b 9 po;- b ? po;+ a 1 px;");
     }
 
-    /** Both MARKS of 49 DEALS on one BODY, all struck, with the longest NAMES. */
+    /** 99 MARKS, both of 49 DEALS, on one BODY: as many as find room on any; all struck, with the longest NAMES. */
     private static SkinLedger longest() {
-        SkinLedger s = Check.at("body abcdefg 99;body hijklmn 1 kin abcdefg;body opqrstu 1;kind vwxyzab 1;line 0;");
+        SkinLedger s = Check.at("body abcdefg 99;body hijklmn 1 kin abcdefg;body opqrstu 2;kind vwxyzab 1;line 0;");
         s.write(1, 2, 10, 0);
         for (int i = 0; i < 49; i++) {
             s.write(0, 1, 51 + i, 0);
             s.strike(1 + i);
         }
+        s.write(2, 0, 10, 0);
+        s.strike(50);
         return s;
     }
 
@@ -477,6 +489,73 @@ public final class LookBoundsTest {
         c.is("no DEALS", small().greatest(0), -1);
     }
 
+    /** What there could be, but is not, is none such: one KIND of 6, two BODIES of 9, one DEAL of 60. */
+    private static void few() {
+        c.part("no such BODIES");
+        for (int b = 2; b <= 9; b++) {
+            SkinLedger s = one();
+            c.noBody(s, b, 0);
+            c.is("mark", s.mark(b, -1), -1);
+            c.is("write", s.write(b, 0, 5, 0), -1);
+            c.is("write", s.write(0, b, 5, 0), -1);
+            c.is("dies", s.dies(b, 0), -1);
+            c.is("dies", s.dies(0, b), -1);
+            c.is("can", s.can(b, 0), -1);
+            c.is("ringsFor", s.ringsFor(b, 0, 0), -1);
+            c.is("ringsFor", s.ringsFor(0, b, 0), -1);
+            c.is("aged", s.aged(b, 0), -1);
+            c.is("owes", s.owes(b, 0), -1);
+            c.is("chain", s.chain(b, 0), -1);
+            c.is("chain", s.chain(0, b), -1);
+            c.is("chain", s.chain(b, b), -1);
+            c.is("fullest", s.fullest(b), -1);
+            c.is("skin", s.skin(b), -1);
+            c.is("between", s.between(b, 0, -1), -1);
+            c.is("between", s.between(0, b, -1), -1);
+            c.is("price", s.price(b, 1), -1);
+            c.is("owed", s.owed(b, 3, 0), -1);
+            c.is("owed by it", s.owed(0, 1 << b, 0), -1);
+            c.is("owed by it, too", s.owed(0, 3 | 1 << b, 1), -1);
+            c.is("proof", s.proof(b), -1);
+        }
+        c.part("no such KINDS");
+        for (int k = 1; k <= 6; k++) {
+            SkinLedger s = one();
+            c.noKind(s, k, 0);
+            c.is("write", s.write(0, 1, 5, k), -1);
+            c.is("can", s.can(0, k), -1);
+            c.is("ringsFor", s.ringsFor(0, 1, k), -1);
+        }
+        c.part("no such DEALS");
+        for (int d = 1; d <= 60; d++) {
+            SkinLedger s = one();
+            c.noDeal(s, d, 0);
+            c.is("read", s.read(d, 0), -1);
+            c.is("strike", s.strike(d), 4);
+            c.is("scar", s.scar(d, 0), 4);
+            c.is("ringOf", s.ringOf(d), -1);
+            c.is("witness", s.witness(d), -1);
+            c.is("greatest", s.greatest(d), -1);
+            c.is("lost", s.lost(d), -1);
+            c.is("between", s.between(0, 1, d), -1);
+            c.is("mark", s.mark(0, d), -1);
+        }
+        SkinLedger s = one();
+        c.is("what there is: the last BODY", s.mark(1, 0), 1);
+        c.is("what there is: the KIND", s.can(0, 0), 2);
+        c.is("what there is: the DEAL", s.witness(0), 1);
+        c.is("what there is: all found", s.owed(0, 3, 0), 5);
+        c.is("what there is: a PRICE", s.price(1, 1), 0);
+    }
+
+    private static SkinLedger one() {
+        SkinLedger s = Check.at("body a 9;body b 9;kind p 1;");
+        s.write(0, 1, 5, 0);
+        Check.bytes(s, 0, 1, 0);
+        c.is("pack", s.pack(), 1);
+        return s;
+    }
+
     private static void promise48() {
         c.part("promise 48: NONE for another what");
         SkinLedger s = full();
@@ -513,6 +592,7 @@ public final class LookBoundsTest {
         promise31();
         promise32();
         promise48();
+        few();
         c.end("LookBoundsTest");
     }
 }

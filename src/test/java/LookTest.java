@@ -358,17 +358,29 @@ public final class LookTest {
         c.is("NONE makes none", s.byteAt(0), '-');
         Check.port(s, "");
         c.is("it stays", s.byteAt(0), '-');
-        s = Check.at("body abcdefg 99;body hijklmn 99;kind opqrstu 1;");
         StringBuilder due = new StringBuilder();
         for (int i = 0; i < 60; i++) {
-            s.write(0, 1, 10, 0);
             due.append("+ hijklmn 10 opqrstu;");
         }
-        c.skinIs(s, 0, due.toString());
-        for (int i = 0; i < 30; i++) {
-            s.strike(i);
+        longSkinIs(0, due.toString());
+        longSkinIs(30, due.toString().replaceFirst("(\\+ hijklmn 10 opqrstu;){30}", "+ hijklmn 10 opqrstux;".repeat(30)));
+    }
+
+    /** Told 300 bytes an object, as each has 512 calls. */
+    private static void longSkinIs(int struck, String due) {
+        for (int from = 0; from < due.length(); from += 300) {
+            SkinLedger s = Check.at("body abcdefg 99;body hijklmn 99;kind opqrstu 1;");
+            for (int i = 0; i < 60; i++) {
+                s.write(0, 1, 10, 0);
+            }
+            for (int i = 0; i < struck; i++) {
+                s.strike(i);
+            }
+            c.is("skin of 60", s.skin(0), due.length());
+            for (int i = from; i < from + 300; i++) {
+                c.is("byteAt(" + i + ")", s.byteAt(i), i < due.length() ? due.charAt(i) : -1);
+            }
         }
-        c.skinIs(s, 0, due.toString().replaceFirst("(\\+ hijklmn 10 opqrstu;){30}", "+ hijklmn 10 opqrstux;".repeat(30)));
     }
 
     private static void promise31() {

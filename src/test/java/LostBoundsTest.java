@@ -196,6 +196,7 @@ public final class LostBoundsTest {
         write(s, 0, 1, 5, 0, true);
         c.is("of all", fits(s, 9, 3, -3, 0), 1);
         c.is("also of one without DEALS", fits(s, 9, 3, -3, 1), 0);
+        c.is("also of one without DEALS", fits(s, 9, 3, -3, -1), 0);
         c.is("also of the lender", fits(s, 9, 4, -3, 0), 0);
         c.is("also of the debtor", fits(s, 9, 3, -4, 0), 0);
         s.dies(2, 0);
@@ -211,6 +212,40 @@ public final class LostBoundsTest {
         s.dies(1, 2);
         c.is("the heir's NET", fits(s, 9, 3, 9999, -3), 1);
         c.is("the heir's NET", fits(s, 9, 3, -3, 0), 0);
+    }
+
+    /** Two LOST DEALS that meet in one BODY, told in each order of the BODIES, each NET one more and one less than as it FITS. */
+    private static void chains() {
+        c.part("promise 40: NETS that hang on more than one SUM");
+        int[][] orders = {{0, 1, 2}, {0, 2, 1}, {1, 0, 2}, {1, 2, 0}, {2, 0, 1}, {2, 1, 0}};
+        for (int[] order : orders) {
+            for (int k = 0; k < 5; k++) {
+                if (k != 3) {
+                    SkinLedger s = Check.at("body a 9;body b 9;body d 9;kind p 1;kind w 1 doubled;kind h 1 halved;"
+                            + "kind f 1 false;kind j 1 joint;");
+                    write(s, order[0], order[1], 50, k, true);
+                    write(s, order[1], order[2], 60, k, true);
+                    int[] value = {4, 8, 2, 0, 4};
+                    int[] other = {7, 14, 3, 0, 7};
+                    int[] nets = new int[3];
+                    nets[order[0]] = value[k];
+                    nets[order[1]] = other[k] - value[k];
+                    nets[order[2]] = -other[k];
+                    c.is("it FITS", fits(s, 20, nets), k == 2 ? 4 : 1);
+                    c.is("the first, least", s.fit(0, 0), 4);
+                    c.is("the first, greatest", s.fit(0, 1), k == 2 ? 5 : 4);
+                    c.is("the second, least", s.fit(1, 0), k == 2 ? 6 : 7);
+                    c.is("the second, greatest", s.fit(1, 1), 7);
+                    for (int b = 0; b < 3; b++) {
+                        for (int by = -1; by <= 1; by += 2) {
+                            nets[b] += by;
+                            c.is("another NET of " + b, fits(s, 20, nets), 0);
+                            nets[b] -= by;
+                        }
+                    }
+                }
+            }
+        }
     }
 
     private static void promise41() {
@@ -357,6 +392,8 @@ public final class LostBoundsTest {
         c.is("by none", s.witness(0), -1);
         s.scar(4, 1);
         c.is("joint by none", s.witness(4), -1);
+        s.scar(9, 0);
+        c.is("joint by none", s.witness(9), -1);
         c.is("a RING", s.cut(), 5);
         int d = s.ring() >= 0 ? s.ringAt(0) : -1;
         c.is("more RINGS", d >= 0, true);
@@ -365,6 +402,14 @@ public final class LostBoundsTest {
         s.dies(0, 1);
         c.is("dead ones, too", s.witness(1), 1);
         c.is("the last BODY", lastOnes().witness(0), 384);
+        s = Check.at("body a 9;body b 9;body d 9;kind p 1;");
+        s.write(1, 2, 5, 0);
+        s.write(2, 1, 5, 0);
+        c.is("as bits, the CREDIT's bearer", s.witness(0), 2);
+        c.is("as bits, the DEBT's bearer", s.witness(1), 2);
+        s = Check.at("body a 9;body b 1 kin a;kind p 2;kind j 2 joint;");
+        s.write(0, 1, 5, 1);
+        c.is("joint, both on one", s.witness(0), 1);
     }
 
     private static SkinLedger lastOnes() {
@@ -378,6 +423,7 @@ public final class LostBoundsTest {
         mostSum();
         fourAtMost();
         nets();
+        chains();
         promise41();
         promise42();
         promise43();

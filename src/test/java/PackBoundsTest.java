@@ -29,6 +29,15 @@ public final class PackBoundsTest {
         return bytes;
     }
 
+    /** What was told ahead of a pack() that is NONE stays told. */
+    private static void notAsTold(String name, int... bytes) {
+        SkinLedger s = Check.at(NINE);
+        c.is("six", pack(s, times(6, 0, 1, 0)), 6);
+        c.is(name, pack(s, bytes), -1);
+        c.is("the tape is empty", s.count(8), 0);
+        packedIs(s, 0, 0, 0, 0, 0, 0);
+    }
+
     private static void promise36() {
         c.part("promise 36: 1 to 6 new DEALS; NONE: not as told");
         SkinLedger s = Check.at(NINE);
@@ -41,33 +50,36 @@ public final class PackBoundsTest {
             c.is("the tape is empty", s.count(8), 0);
         }
         for (int n : new int[] {0, 7, 8, 200, 213}) {
-            c.is("pack of " + n, pack(s, times(n, 0, 1, 0)), -1);
-            packedIs(s, 0, 0, 0, 0, 0, 0);
+            notAsTold("pack of " + n, times(n, 0, 1, 0));
         }
         for (int bytes = 0; bytes <= 25; bytes++) {
             if (bytes % 3 != 0) {
-                c.is("pack of " + bytes + " bytes", pack(s, new int[bytes]), -1);
+                notAsTold("pack of " + bytes + " bytes", new int[bytes]);
             }
         }
-        for (int i = 0; i < 32; i++) {
-            s.feed(0, 0, 0, 0, 0);
-        }
-        c.is("pack of a full tape", s.pack(), -1);
-        packedIs(s, 0, 0, 0, 0, 0, 0);
+        notAsTold("pack of a full tape", new int[640]);
         c.is("the last of each", pack(s, 8, 0, 5, 0, 8, 5), 2);
         packedIs(s, 0, 0);
         for (int far : new int[] {9, 10, 127, 128, 255}) {
-            c.is("no such lender", pack(s, far, 0, 0), -1);
-            c.is("no such debtor", pack(s, 0, far, 0), -1);
-            c.is("no such lender, the second", pack(s, 0, 1, 0, far, 0, 0), -1);
-            c.is("no such debtor, the second", pack(s, 0, 1, 0, 0, far, 0), -1);
-            c.is("the tape is empty", s.count(8), 0);
+            notAsTold("no such lender", far, 0, 0);
+            notAsTold("no such debtor", 0, far, 0);
+            notAsTold("no such lender, the second", 0, 1, 0, far, 0, 0);
+            notAsTold("no such debtor, the second", 0, 1, 0, 0, far, 0);
+            notAsTold("no such lender, the sixth", 0, 1, 0, 0, 1, 0, 0, 1, 0, 0, 1, 0, 0, 1, 0, far, 1, 0);
+            notAsTold("no such debtor, the sixth", 0, 1, 0, 0, 1, 0, 0, 1, 0, 0, 1, 0, 0, 1, 0, 0, far, 0);
         }
         for (int far : new int[] {6, 7, 128, 255}) {
-            c.is("no such KIND", pack(s, 0, 1, far), -1);
-            c.is("no such KIND, the second", pack(s, 0, 1, 0, 0, 1, far), -1);
+            notAsTold("no such KIND", 0, 1, far);
+            notAsTold("no such KIND, the second", 0, 1, 0, 0, 1, far);
+            notAsTold("no such KIND, the sixth", 0, 1, 0, 0, 1, 0, 0, 1, 0, 0, 1, 0, 0, 1, 0, 0, 1, far);
         }
-        packedIs(s, 0, 0);
+        s = Check.at("body a 9;body b 9;kind p 1;");
+        for (int far = 1; far <= 6; far++) {
+            c.is("one KIND, no such one", pack(s, 0, 1, far), -1);
+            c.is("two BODIES, no such lender", pack(s, 1 + far, 0, 0), -1);
+            c.is("two BODIES, no such debtor", pack(s, 0, 1 + far, 0), -1);
+        }
+        s = Check.at(NINE);
         c.is("nobody", pack(Check.at(""), 0, 0, 0), -1);
         c.is("no KINDS", pack(Check.at("body a 9;body b 9;"), 0, 1, 0), -1);
         c.is("no BODIES", pack(Check.at("kind p 1;"), 0, 0, 0), -1);

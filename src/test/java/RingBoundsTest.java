@@ -117,6 +117,13 @@ public final class RingBoundsTest {
         }
     }
 
+    /** A RING of n BODIES from the first on, all of whose DEALS come off at once. */
+    private static void round(SkinLedger s, int first, int n, int kind) {
+        for (int i = 0; i < n; i++) {
+            s.write(first + i, first + (i + 1) % n, 5, kind);
+        }
+    }
+
     private static void best() {
         c.part("The best: that FREES most");
         SkinLedger s = Check.at(NINE + KINDS);
@@ -127,6 +134,26 @@ public final class RingBoundsTest {
         s.write(4, 5, 5, 1);
         s.write(5, 4, 5, 1);
         ringIs(s, 18, 2, 3);
+        c.part("that FREES most, be it of more DEALS");
+        int[] size = {2, 3, 9};
+        for (int k = 0; k < 3; k++) {
+            for (int n = 2; n <= 4; n++) {
+                for (int m = n + 1; m <= 5; m++) {
+                    s = Check.at(NINE + KINDS);
+                    round(s, 0, n, k);
+                    round(s, n, m, k);
+                    c.is("a long one behind one of " + n, s.ring(), 2 * size[k] * m);
+                    c.is("its first", s.ringAt(0), n);
+                    c.is("its last", s.ringAt(m - 1), n + m - 1);
+                    s = Check.at(NINE + KINDS);
+                    round(s, n, m, k);
+                    round(s, 0, n, k);
+                    c.is("a long one ahead of one of " + n, s.ring(), 2 * size[k] * m);
+                    c.is("its first", s.ringAt(0), 0);
+                    c.is("its last", s.ringAt(m - 1), m - 1);
+                }
+            }
+        }
         c.part("of like ones the one of fewest DEALS");
         for (int n = 3; n <= 5; n++) {
             s = Check.at(NINE + KINDS);

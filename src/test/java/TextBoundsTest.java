@@ -185,6 +185,12 @@ public final class TextBoundsTest {
         c.is("the next PORT", Check.port(s, "dot 8;"), 1);
         c.is("line", s.count(2), 1);
         c.is("dot", s.count(3), 8);
+        c.is("the next PORT", Check.port(s, "line 2;"), 1);
+        c.is("line", s.count(2), 2);
+        c.is("dot", s.count(3), 0);
+        c.is("an empty PORT", Check.port(s, ""), 0);
+        c.is("line", s.count(2), 1);
+        c.is("dot", s.count(3), 0);
         c.part("once each");
         c.portFault("line 1;line 1;", 3, 7);
         c.portFault("dot 0;dot 0;", 3, 6);
@@ -441,6 +447,49 @@ public final class TextBoundsTest {
         }
     }
 
+    /** Nothing of the PORT ahead is so in the next one, be it the same text. */
+    private static void anew() {
+        c.part("A new PORT: no DEALS, no BOOK, YEAR 0; nothing can be undone");
+        for (String text : new String[] {Check.PORT, Check.PORT + " ", "body a 20;body b 10;", ""}) {
+            SkinLedger s = Check.at(Check.PORT);
+            for (int i = 0; i < 3; i++) {
+                s.write(i % 2, 1 - i % 2, 5, 0);
+            }
+            s.strike(2);
+            s.scar(0, 1);
+            s.cut();
+            s.dies(3, 1);
+            s.year();
+            Check.book(s, "year;");
+            c.is("lines and dots", s.body(0, 6) + s.body(1, 6), 6);
+            c.is("LINES of the BOOK", s.count(7), 1);
+            Check.text(s, text);
+            c.is("port", s.port() >= 0, true);
+            for (int what = 4; what <= 8; what++) {
+                c.is("count(" + what + ")", s.count(what), 0);
+            }
+            for (int b = 0; b < s.count(0); b++) {
+                c.is("lives", s.body(b, 2), 1);
+                c.is("LEFT is ROOM", s.body(b, 3), s.body(b, 0));
+                c.is("NET", s.body(b, 4), 0);
+                c.is("MARKS", s.body(b, 5), 0);
+                c.is("lines and dots", s.body(b, 6), 0);
+            }
+            c.noDeal(s, 0, 0);
+            c.is("judge", s.judge(0), -1);
+            c.is("LINES done", s.judged(1), 0);
+            c.is("undo", s.undo(), -1);
+        }
+        c.part("promise 1: An empty PORT; an empty tape");
+        SkinLedger s = new SkinLedger();
+        int[] due = {0, 0, 1, 0, 0, 0, 0, 0, 0};
+        for (int what = 0; what <= 8; what++) {
+            c.is("count(" + what + ")", s.count(what), due[what]);
+        }
+        c.is("no byte", s.end(1), false);
+        c.is("no bytes", s.end(0), true);
+    }
+
     private static void emptied() {
         c.part("promise 4: The tape (empty then, here and below, whatever is answered)");
         SkinLedger s = Check.at(Check.PORT);
@@ -494,6 +543,7 @@ public final class TextBoundsTest {
         ends();
         sixHundred();
         tape();
+        anew();
         emptied();
         c.end("TextBoundsTest");
     }
