@@ -280,6 +280,18 @@ public final class ActBoundsTest {
         c.is("MARKS of the dead", s.body(0, 5), 4);
         c.is("the next heir has one", s.dies(1, 2), 0);
         c.is("closed", s.deal(2, 5), 2);
+        c.part("promise 18: how many open DEALS the heir has of him, not of others");
+        for (int b = 0; b < 4; b++) {
+            for (int heir = 0; heir < 4; heir++) {
+                s = Check.at("body a 20;body b 20;body d 20;body e 20;kind p 1;");
+                for (int i = 0; i < 16; i++) {
+                    s.write(i / 4, i % 4, 5, 0);
+                }
+                // of his three to others and three of others one each is with the heir
+                c.is("dies(" + b + ", " + heir + ")", s.dies(b, heir), b == heir ? -11 : 4);
+                c.is("open", s.count(5), b == heir ? 12 : 10);
+            }
+        }
         s = sixty(99, 99);
         c.is("all are closed", s.dies(0, 1), 0);
         c.is("none open", s.count(5), 0);

@@ -543,6 +543,9 @@ public final class LookBoundsTest {
         SkinLedger s = one();
         c.is("what there is: the last BODY", s.mark(1, 0), 1);
         c.is("what there is: the KIND", s.can(0, 0), 2);
+        c.is("what there is: who owes", s.owes(0, 0), 2);
+        c.is("what there is: to whom", s.owes(1, 1), 1);
+        c.is("what there is: between", s.between(0, 1, 0), 0);
         c.is("what there is: the DEAL", s.witness(0), 1);
         c.is("what there is: all found", s.owed(0, 3, 0), 5);
         c.is("what there is: a PRICE", s.price(1, 1), 0);

@@ -214,36 +214,45 @@ public final class LostBoundsTest {
         c.is("the heir's NET", fits(s, 9, 3, -3, 0), 0);
     }
 
-    /** Two LOST DEALS that meet in one BODY, told in each order of the BODIES, each NET one more and one less than as it FITS. */
+    /** Two LOST DEALS that meet in one BODY, by each order of the BODIES and each way of the DEALS. */
     private static void chains() {
         c.part("promise 40: NETS that hang on more than one SUM");
         int[][] orders = {{0, 1, 2}, {0, 2, 1}, {1, 0, 2}, {1, 2, 0}, {2, 0, 1}, {2, 1, 0}};
         for (int[] order : orders) {
-            for (int k = 0; k < 5; k++) {
-                if (k != 3) {
-                    SkinLedger s = Check.at("body a 9;body b 9;body d 9;kind p 1;kind w 1 doubled;kind h 1 halved;"
-                            + "kind f 1 false;kind j 1 joint;");
-                    write(s, order[0], order[1], 50, k, true);
-                    write(s, order[1], order[2], 60, k, true);
-                    int[] value = {4, 8, 2, 0, 4};
-                    int[] other = {7, 14, 3, 0, 7};
-                    int[] nets = new int[3];
-                    nets[order[0]] = value[k];
-                    nets[order[1]] = other[k] - value[k];
-                    nets[order[2]] = -other[k];
-                    c.is("it FITS", fits(s, 20, nets), k == 2 ? 4 : 1);
-                    c.is("the first, least", s.fit(0, 0), 4);
-                    c.is("the first, greatest", s.fit(0, 1), k == 2 ? 5 : 4);
-                    c.is("the second, least", s.fit(1, 0), k == 2 ? 6 : 7);
-                    c.is("the second, greatest", s.fit(1, 1), 7);
-                    for (int b = 0; b < 3; b++) {
-                        for (int by = -1; by <= 1; by += 2) {
-                            nets[b] += by;
-                            c.is("another NET of " + b, fits(s, 20, nets), 0);
-                            nets[b] -= by;
-                        }
+            for (int way = 0; way < 4; way++) {
+                for (int k = 0; k < 5; k++) {
+                    if (k != 3) {
+                        chain(order, way, k);
                     }
                 }
+            }
+        }
+    }
+
+    /** SUMS of 4 and 7; each NET one more and one less than as they FIT. */
+    private static void chain(int[] order, int way, int k) {
+        SkinLedger s = Check.at("body a 9;body b 9;body d 9;kind p 1;kind w 1 doubled;kind h 1 halved;kind f 1 false;kind j 1 joint;");
+        int[] nets = new int[3];
+        int[] value = {4, 8, 2, 0, 4};
+        int[] other = {7, 14, 3, 0, 7};
+        for (int i = 0; i < 2; i++) {
+            boolean isTurned = (way >> i & 1) == 1;
+            int lender = order[isTurned ? i + 1 : i];
+            int debtor = order[isTurned ? i : i + 1];
+            write(s, lender, debtor, 50 + i, k, true);
+            nets[lender] += i == 0 ? value[k] : other[k];
+            nets[debtor] -= i == 0 ? value[k] : other[k];
+        }
+        c.is("it FITS", fits(s, 20, nets), k == 2 ? 4 : 1);
+        c.is("the first, least", s.fit(0, 0), 4);
+        c.is("the first, greatest", s.fit(0, 1), k == 2 ? 5 : 4);
+        c.is("the second, least", s.fit(1, 0), k == 2 ? 6 : 7);
+        c.is("the second, greatest", s.fit(1, 1), 7);
+        for (int b = 0; b < 3; b++) {
+            for (int by = -1; by <= 1; by += 2) {
+                nets[b] += by;
+                c.is("another NET of " + b, fits(s, 20, nets), 0);
+                nets[b] -= by;
             }
         }
     }

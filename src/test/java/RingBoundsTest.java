@@ -13,24 +13,31 @@ public final class RingBoundsTest {
         }
     }
 
+    /** By steps of 1 to 8, none of 3, as each of the nine is come to then. */
+    private static void ofLength(int n, int first, int step) {
+        SkinLedger s = Check.at(NINE + KINDS);
+        for (int i = 0; i < n; i++) {
+            c.is("ring of " + i, s.ring(), -1);
+            s.write((first + i * step) % 9, (first + (i + 1) % n * step) % 9, 5, 0);
+        }
+        c.is("a RING of " + n, s.ring(), n <= 5 ? 4 * n : -1);
+        for (int i = -1; i <= 9; i++) {
+            c.is("ringAt(" + i + ")", s.ringAt(i), n <= 5 && i >= 0 && i < n ? i : -1);
+        }
+        c.is("ringOf the first", s.ringOf(0), n <= 5 ? 4 * n : -1);
+        c.is("ringOf the last", s.ringOf(n - 1), n <= 5 ? 4 * n : -1);
+        c.is("ringOf none", s.ringOf(n), -1);
+        c.is("cut", s.cut(), n <= 5 ? 5 : -1);
+        c.is("open", s.count(5), n <= 5 ? 0 : n);
+    }
+
     private static void lengths() {
         c.part("A RING: 2 to 5 open DEALS, all these BODIES unlike");
         for (int n = 2; n <= 9; n++) {
-            for (int first = 0; first + n <= 9; first++) {
-                SkinLedger s = Check.at(NINE + KINDS);
-                for (int i = 0; i < n; i++) {
-                    c.is("ring of " + i, s.ring(), -1);
-                    s.write(first + i, first + (i + 1) % n, 5, 0);
+            for (int first = 0; first < 9; first++) {
+                for (int step : new int[] {1, 2, 4, 5, 7, 8}) {
+                    ofLength(n, first, step);
                 }
-                c.is("a RING of " + n, s.ring(), n <= 5 ? 4 * n : -1);
-                for (int i = -1; i <= 9; i++) {
-                    c.is("ringAt(" + i + ")", s.ringAt(i), n <= 5 && i >= 0 && i < n ? i : -1);
-                }
-                c.is("ringOf the first", s.ringOf(0), n <= 5 ? 4 * n : -1);
-                c.is("ringOf the last", s.ringOf(n - 1), n <= 5 ? 4 * n : -1);
-                c.is("ringOf none", s.ringOf(n), -1);
-                c.is("cut", s.cut(), n <= 5 ? 5 : -1);
-                c.is("open", s.count(5), n <= 5 ? 0 : n);
             }
         }
         SkinLedger s = Check.at(NINE + KINDS);
@@ -40,6 +47,16 @@ public final class RingBoundsTest {
         s.write(2, 0, 9, 0);
         s.strike(1);
         ringIs(s, -1);
+        c.part("A RING: no BODY twice: two that meet in one are two");
+        for (int n = 2; n <= 3; n++) {
+            for (int m = 2; n + m <= 5; m++) {
+                for (int meet = 0; meet < 9; meet++) {
+                    for (int turn = 0; turn < n + m; turn++) {
+                        eight(n, m, meet, turn);
+                    }
+                }
+            }
+        }
         c.part("A RING: round, not open or the wrong way round");
         s = Check.at(NINE + KINDS);
         s.write(0, 1, 5, 0);
@@ -50,6 +67,23 @@ public final class RingBoundsTest {
         s.write(2, 0, 5, 0);
         s.strike(4);
         ringIs(s, -1);
+    }
+
+    /** A walk round n DEALS, then m from where it set out, written from another of them on. */
+    private static void eight(int n, int m, int meet, int turn) {
+        SkinLedger s = Check.at(NINE + KINDS);
+        for (int i = 0; i < n + m; i++) {
+            int at = (i + turn) % (n + m);
+            int from = at == n ? 0 : at;
+            int to = at + 1 == n || at + 1 == n + m ? 0 : at + 1;
+            s.write((meet + from) % 9, (meet + to) % 9, 5, 0);
+        }
+        c.is("the longer one", s.ring(), 4 * Math.max(n, m));
+        for (int d = 0; d < n + m; d++) {
+            c.is("each in its own", s.ringOf(d), (d + turn) % (n + m) < n ? 4 * n : 4 * m);
+        }
+        c.is("cut", s.cut(), 5);
+        c.is("the other stays", s.count(5), Math.min(n, m));
     }
 
     private static void sorts() {
@@ -168,6 +202,32 @@ public final class RingBoundsTest {
             c.is("the short one", s.ring(), 4);
             c.is("its first", s.ringAt(0), n);
             c.is("it has no more", s.ringAt(n - 1), -1);
+        }
+        for (int n = 3; n <= 5; n++) {
+            s = Check.at(NINE + "kind p 2;dot 2;");
+            round(s, 0, n, 0);
+            c.is("it FREES nothing", s.ring(), 0);
+            c.is("the long one", s.ringAt(n - 1), n - 1);
+            s.write(n - 2, 0, 5, 0);
+            c.is("the short one FREES nothing", s.ring(), 0);
+            c.is("its first", s.ringAt(0), 0);
+            c.is("its last", s.ringAt(n - 2), n);
+            c.is("it has no more", s.ringAt(n - 1), -1);
+        }
+        for (int n = 4; n <= 5; n++) {
+            for (int m = 3; m < n; m++) {
+                s = Check.at(NINE + "kind p 2;dot 2;");
+                round(s, 0, n, 0);
+                for (int i = 1; i < m; i++) {
+                    s.write(i == 1 ? 1 : 4 + i, i == m - 1 ? 0 : 5 + i, 5, 0);
+                }
+                c.is("by another way", s.ring(), 0);
+                c.is("the same first", s.ringAt(0), 0);
+                for (int i = 1; i < m; i++) {
+                    c.is("the short one", s.ringAt(i), n + i - 1);
+                }
+                c.is("it has no more", s.ringAt(m), -1);
+            }
         }
         c.part("of like ones the first (told from its least DEAL on: DEAL by DEAL the lesser)");
         s = Check.at(NINE + KINDS);
