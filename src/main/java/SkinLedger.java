@@ -1567,12 +1567,14 @@ public final class SkinLedger {
 
     /** The states ahead of the latest ACTS: one row more than are kept, for a state noted ahead of an ACT that may be WRONG. */
     private static final class History {
-        private final Ledger[] rows = new Ledger[MOST_UNDONE + 1];
+        private static final int ROWS = MOST_UNDONE + 1;
+
+        private final Ledger[] rows = new Ledger[ROWS];
         private int noted;
         private int kept;
 
         History(Port port) {
-            for (int i = 0; i < rows.length; i++) {
+            for (int i = 0; i < ROWS; i++) {
                 rows[i] = new Ledger(port);
             }
         }
@@ -1586,7 +1588,7 @@ public final class SkinLedger {
         }
 
         void keepNoted() {
-            noted = (noted + 1) % rows.length;
+            noted = (noted + 1) % ROWS;
             kept = Math.min(kept + 1, MOST_UNDONE);
         }
 
@@ -1594,7 +1596,7 @@ public final class SkinLedger {
             if (kept == 0) {
                 return NONE;
             }
-            noted = (noted + rows.length - 1) % rows.length;
+            noted = (noted + ROWS - 1) % ROWS;
             kept--;
             now.copyFrom(rows[noted]);
             return kept;
